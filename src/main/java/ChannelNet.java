@@ -69,7 +69,7 @@ public final class ChannelNet {
 
     public boolean knows(int node, long lock) throws IndexOutOfBoundsException {
         checkNode(node);
-        return secrets.areKnownBy(node, lock);
+        return secrets.isKnown(node, lock);
     }
 
     public void watch(int node, boolean on) throws IndexOutOfBoundsException {
@@ -218,7 +218,7 @@ public final class ChannelNet {
         } else if (going.made < going.length) {
             stepForward(going);
         } else {
-            going.turnBack(secrets.areKnownBy(going.receiver, going.lock) ? KEPT : DROPPED);
+            going.turnBack(secrets.isKnown(going.receiver, going.lock) ? KEPT : DROPPED);
         }
         return going.status;
     }
@@ -623,7 +623,7 @@ public final class ChannelNet {
             return NONE;
         }
 
-        boolean areKnownBy(int node, long lock) {
+        boolean isKnown(int node, long lock) {
             int at = find(lock);
             return at != NONE && (knowers[at] >> node & 1) != 0;
         }

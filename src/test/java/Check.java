@@ -37,14 +37,16 @@ final class Check {
         }
     }
 
-    /** The call throws, and what can be seen of the object is the same before and behind it. */
+    /** The call throws, by a throw of the class itself, and the object looks the same before and behind it. */
     static void refuses(String what, ChannelNet net, Class<? extends Exception> want, Call call) {
         String before = Look.at(net);
-        Object got = answer(() -> {
+        try {
             call.run();
-            return "no exception";
-        });
-        text(what + " throws", String.valueOf(got), "throws " + want.getSimpleName());
+            fail(what + " throws nothing, due is " + want);
+        } catch (RuntimeException e) {
+            text(what + " throws", e.getClass().getName(), want.getName());
+            text(what + " throws in", e.getStackTrace()[0].getClassName(), "ChannelNet");
+        }
         text(what + " leaves the object", Look.at(net), before);
     }
 
