@@ -1,4 +1,5 @@
 import java.util.concurrent.Callable;
+import java.util.function.IntConsumer;
 
 /** What the tests of the project share: they print every wrong answer and end with exit code 1 if there was one. */
 final class Check {
@@ -11,8 +12,25 @@ final class Check {
     }
 
     private static int wrong = 0;
+    private static String sentence = "";
 
     private Check() {
+    }
+
+    /** Runs the test of one sentence of the document; what it finds wrong is printed with the sentence. */
+    static void sentence(String words, Call test) {
+        sentence = words + ": ";
+        try {
+            test.run();
+        } catch (RuntimeException e) {
+            fail("the test ends with " + e);
+        }
+        sentence = "";
+    }
+
+    /** The numbers next to a range, and those farthest from it. */
+    static int[] outside(int least, int most) {
+        return new int[] {least - 1, most + 1, Integer.MIN_VALUE, Integer.MAX_VALUE};
     }
 
     static void same(String what, long got, long want) {
@@ -50,6 +68,13 @@ final class Check {
         text(what + " leaves the object", Look.at(net), before);
     }
 
+    static void refusesEach(String what, ChannelNet net, Class<? extends Exception> want, int[] numbers,
+            IntConsumer call) {
+        for (int number : numbers) {
+            refuses(what + " " + number, net, want, () -> call.accept(number));
+        }
+    }
+
     static Object answer(Callable<Object> call) {
         try {
             return call.call();
@@ -60,7 +85,7 @@ final class Check {
 
     static void fail(String message) {
         wrong++;
-        System.out.println(message);
+        System.out.println(sentence + message);
     }
 
     static boolean failed() {

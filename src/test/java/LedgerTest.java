@@ -2,32 +2,16 @@
 public final class LedgerTest {
     public static void main(String[] args) {
         publishes();
-        publishRefuses();
         punishes();
-        punishRefuses();
         claims();
-        claimRefuses();
-        claimWithNothingPublished();
-        atMost24SecretsByClaim();
         takesBack();
-        takeBackRefuses();
         settles();
-        settleRefuses();
         grows();
         Check.end();
     }
 
-    /** Channel 0 between nodes 4 and 2: state 1 has promise 0 of node 4, state 2 also promise 1 of node 2. */
-    private static ChannelNet netWithPromises() {
-        ChannelNet net = new ChannelNet();
-        net.open(4, 2, 1000, 500);
-        net.promise(0, 4, 300, net.lock(8), 15);
-        net.promise(0, 2, 100, net.lock(9), 5);
-        return net;
-    }
-
     private static void publishes() {
-        ChannelNet net = netWithPromises();
+        ChannelNet net = Nets.promises();
         net.grow(3);
         net.publish(0, 2, 1);
         Check.same("it is PUBLISHED", net.channel(0, 0), ChannelNet.PUBLISHED);
@@ -39,25 +23,8 @@ public final class LedgerTest {
         Check.same("coins", net.coins(2), 999500);
     }
 
-    private static void publishRefuses() {
-        ChannelNet net = netWithPromises();
-        Check.refuses("channel -1", net, Check.INDEX, () -> net.publish(-1, 4, 0));
-        Check.refuses("channel 1", net, Check.INDEX, () -> net.publish(1, 4, 0));
-        Check.refuses("another node", net, Check.INDEX, () -> net.publish(0, 0, 0));
-        Check.refuses("no node", net, Check.INDEX, () -> net.publish(0, -1, 0));
-        Check.refuses("state -1", net, Check.INDEX, () -> net.publish(0, 4, -1));
-        Check.refuses("state 3", net, Check.INDEX, () -> net.publish(0, 4, 3));
-        net.publish(0, 4, 2);
-        Check.refuses("PUBLISHED", net, Check.STATE, () -> net.publish(0, 2, 2));
-        Check.refuses("node before channel", net, Check.INDEX, () -> net.publish(0, 1, 2));
-        Check.refuses("state before channel", net, Check.INDEX, () -> net.publish(0, 2, 3));
-        net.open(4, 2, 1, 1);
-        net.close(1);
-        Check.refuses("CLOSED", net, Check.STATE, () -> net.publish(1, 2, 0));
-    }
-
     private static void punishes() {
-        ChannelNet net = netWithPromises();
+        ChannelNet net = Nets.promises();
         net.grow(1);
         net.publish(0, 4, 0);
         net.grow(9);
@@ -67,29 +34,13 @@ public final class LedgerTest {
         Check.same("it is CLOSED", net.channel(0, 0), ChannelNet.CLOSED);
         Check.same("it holds nothing", net.channel(0, 4), 0);
         Check.same("the published state stays", net.channel(0, 2), 0);
-        ChannelNet other = netWithPromises();
+        ChannelNet other = Nets.promises();
         other.publish(0, 2, 1);
         Check.same("the first node punishes", other.punish(0), 1000500);
     }
 
-    private static void punishRefuses() {
-        ChannelNet net = netWithPromises();
-        Check.refuses("channel -1", net, Check.INDEX, () -> net.punish(-1));
-        Check.refuses("channel 1", net, Check.INDEX, () -> net.punish(1));
-        Check.refuses("OPEN", net, Check.STATE, () -> net.punish(0));
-        net.publish(0, 4, 2);
-        Check.refuses("the latest state", net, Check.STATE, () -> net.punish(0));
-        net.open(4, 2, 10, 10);
-        net.promise(1, 4, 1, 0, 9);
-        net.publish(1, 4, 0);
-        net.grow(10);
-        Check.refuses("10 above", net, Check.STATE, () -> net.punish(1));
-        net.settle(1);
-        Check.refuses("CLOSED", net, Check.STATE, () -> net.punish(1));
-    }
-
     private static void claims() {
-        ChannelNet net = netWithPromises();
+        ChannelNet net = Nets.promises();
         net.publish(0, 4, 2);
         net.grow(4);
         Check.same("coins of the payee", net.claim(0, 1, 9), 999100);
@@ -127,65 +78,8 @@ public final class LedgerTest {
         Check.same("coins", net.coins(2), 1000300);
     }
 
-    private static void claimRefuses() {
-        ChannelNet net = netWithPromises();
-        net.publish(0, 4, 1);
-        Check.refuses("channel -1", net, Check.INDEX, () -> net.claim(-1, 0, 8));
-        Check.refuses("channel 1", net, Check.INDEX, () -> net.claim(1, 0, 8));
-        Check.refuses("promise -1", net, Check.INDEX, () -> net.claim(0, -1, 8));
-        Check.refuses("promise 2", net, Check.INDEX, () -> net.claim(0, 2, 8));
-        Check.refuses("not in the published state", net, Check.INDEX, () -> net.claim(0, 1, 9));
-        Check.refuses("wrong secret", net, Check.ARGUMENT, () -> net.claim(0, 0, 9));
-        Check.refuses("may be punished", net, Check.STATE, () -> net.claim(0, 0, 8));
-        net.grow(15);
-        Check.refuses("deadline is HEIGHT", net, Check.STATE, () -> net.claim(0, 0, 8));
-        Check.refuses("secret before deadline", net, Check.ARGUMENT, () -> net.claim(0, 0, 9));
-        net.takeBack(0, 0);
-        Check.refuses("taken back", net, Check.INDEX, () -> net.claim(0, 0, 8));
-        ChannelNet punished = netWithPromises();
-        punished.publish(0, 4, 1);
-        punished.punish(0);
-        Check.refuses("CLOSED", punished, Check.STATE, () -> punished.claim(0, 0, 8));
-        Check.refuses("CLOSED, not published", punished, Check.INDEX, () -> punished.claim(0, 1, 9));
-        Check.refuses("CLOSED, wrong secret", punished, Check.ARGUMENT, () -> punished.claim(0, 0, 9));
-        ChannelNet again = netWithPromises();
-        again.publish(0, 4, 2);
-        again.claim(0, 0, 8);
-        Check.refuses("claimed", again, Check.INDEX, () -> again.claim(0, 0, 8));
-        Check.refuses("claimed, wrong secret", again, Check.INDEX, () -> again.claim(0, 0, 9));
-    }
-
-    private static void claimWithNothingPublished() {
-        ChannelNet net = netWithPromises();
-        net.drop(0, 0);
-        Check.refuses("made and dropped", net, Check.STATE, () -> net.claim(0, 0, 8));
-        Check.refuses("made and dropped, wrong secret", net, Check.ARGUMENT, () -> net.claim(0, 0, 9));
-        Check.refuses("made", net, Check.STATE, () -> net.claim(0, 1, 9));
-        Check.refuses("never made", net, Check.INDEX, () -> net.claim(0, 2, 9));
-        Check.refuses("made, take back", net, Check.STATE, () -> net.takeBack(0, 0));
-        Check.refuses("never made, take back", net, Check.INDEX, () -> net.takeBack(0, 2));
-        net.drop(0, 1);
-        net.close(0);
-        Check.refuses("CLOSED", net, Check.STATE, () -> net.claim(0, 1, 9));
-        Check.refuses("CLOSED, wrong secret", net, Check.ARGUMENT, () -> net.claim(0, 1, 8));
-        net.grow(20);
-        Check.refuses("CLOSED, take back", net, Check.STATE, () -> net.takeBack(0, 1));
-    }
-
-    private static void atMost24SecretsByClaim() {
-        ChannelNet net = netWithPromises();
-        net.tell(0, 9);
-        for (int secret = 11; secret <= 33; secret++) {
-            net.tell(0, secret);
-        }
-        net.publish(0, 4, 2);
-        Check.refuses("24 others are known", net, Check.STATE, () -> net.claim(0, 0, 8));
-        Check.same("a known one", net.claim(0, 1, 9), 999100);
-        Check.yes("all know", net.knows(5, net.lock(9)));
-    }
-
     private static void takesBack() {
-        ChannelNet net = netWithPromises();
+        ChannelNet net = Nets.promises();
         net.publish(0, 4, 2);
         net.grow(5);
         Check.same("coins of the payer", net.takeBack(0, 1), 999600);
@@ -201,34 +95,8 @@ public final class LedgerTest {
         Check.same("coins", net.coins(2), 1000000);
     }
 
-    private static void takeBackRefuses() {
-        ChannelNet net = netWithPromises();
-        net.publish(0, 4, 2);
-        Check.refuses("channel -1", net, Check.INDEX, () -> net.takeBack(-1, 0));
-        Check.refuses("channel 1", net, Check.INDEX, () -> net.takeBack(1, 0));
-        Check.refuses("promise -1", net, Check.INDEX, () -> net.takeBack(0, -1));
-        Check.refuses("promise 2", net, Check.INDEX, () -> net.takeBack(0, 2));
-        net.grow(4);
-        Check.refuses("deadline above HEIGHT", net, Check.STATE, () -> net.takeBack(0, 1));
-        net.grow(1);
-        net.takeBack(0, 1);
-        Check.refuses("taken back", net, Check.INDEX, () -> net.takeBack(0, 1));
-        net.claim(0, 0, 8);
-        Check.refuses("claimed", net, Check.INDEX, () -> net.takeBack(0, 0));
-        ChannelNet old = new ChannelNet();
-        old.open(4, 2, 1000, 500);
-        old.promise(0, 4, 300, old.lock(8), 1);
-        old.promise(0, 4, 300, old.lock(8), 1);
-        old.publish(0, 4, 1);
-        old.grow(9);
-        Check.refuses("not in the published state", old, Check.INDEX, () -> old.takeBack(0, 1));
-        Check.refuses("may be punished", old, Check.STATE, () -> old.takeBack(0, 0));
-        old.grow(1);
-        Check.same("may be no more", old.takeBack(0, 0), 999300);
-    }
-
     private static void settles() {
-        ChannelNet net = netWithPromises();
+        ChannelNet net = Nets.promises();
         net.grow(2);
         net.publish(0, 4, 2);
         net.grow(9);
@@ -238,28 +106,12 @@ public final class LedgerTest {
         Check.same("coins", net.coins(4), 999700);
         Check.same("coins", net.coins(2), 999900);
         Check.same("what it holds", net.channel(0, 4), 400);
-        ChannelNet old = netWithPromises();
+        ChannelNet old = Nets.promises();
         old.publish(0, 4, 0);
         old.grow(10);
         Check.same("no promise in it", old.settle(0), ChannelNet.CLOSED);
         Check.same("coins", old.coins(4), 1000000);
         Check.same("coins", old.coins(2), 1000000);
-    }
-
-    private static void settleRefuses() {
-        ChannelNet net = netWithPromises();
-        net.grow(20);
-        Check.refuses("channel -1", net, Check.INDEX, () -> net.settle(-1));
-        Check.refuses("channel 1", net, Check.INDEX, () -> net.settle(1));
-        Check.refuses("OPEN", net, Check.STATE, () -> net.settle(0));
-        net.publish(0, 4, 2);
-        Check.refuses("0 above", net, Check.STATE, () -> net.settle(0));
-        net.grow(10);
-        net.settle(0);
-        Check.refuses("SETTLED", net, Check.STATE, () -> net.settle(0));
-        net.takeBack(0, 0);
-        net.takeBack(0, 1);
-        Check.refuses("CLOSED", net, Check.STATE, () -> net.settle(0));
     }
 
     private static void grows() {
@@ -284,7 +136,5 @@ public final class LedgerTest {
         net.publish(4, 0, 0);
         Check.same("once in many steps", net.grow(5), 1);
         Check.same("height", net.height(), 1014);
-        Check.refuses("n -1", net, Check.ARGUMENT, () -> net.grow(-1));
-        Check.refuses("n 1001", net, Check.ARGUMENT, () -> net.grow(1001));
     }
 }

@@ -3,10 +3,8 @@ public final class NodesTest {
     public static void main(String[] args) {
         newObject();
         feesChangeAmountsAndDeadlines();
-        feesRefuse();
         locks();
         tellAndKnows();
-        atMost24Secrets();
         watchOnAndOff();
         heightAndCoins();
         Check.end();
@@ -60,26 +58,6 @@ public final class NodesTest {
         Check.same("the ends take no fee", net.route(0, 2, 3), 4);
     }
 
-    private static void feesRefuse() {
-        ChannelNet net = new ChannelNet();
-        net.open(0, 1, 1000, 0);
-        net.open(1, 2, 1000, 0);
-        net.fees(1, 7, 0, 3);
-        Check.refuses("node -1", net, Check.INDEX, () -> net.fees(-1, 0, 0, 1));
-        Check.refuses("node 6", net, Check.INDEX, () -> net.fees(6, 0, 0, 1));
-        Check.refuses("node before number", net, Check.INDEX, () -> net.fees(6, -1, 0, 1));
-        Check.refuses("base -1", net, Check.ARGUMENT, () -> net.fees(1, -1, 0, 1));
-        Check.refuses("base 10001", net, Check.ARGUMENT, () -> net.fees(1, 10001, 0, 1));
-        Check.refuses("parts -1", net, Check.ARGUMENT, () -> net.fees(1, 0, -1, 1));
-        Check.refuses("parts 1000001", net, Check.ARGUMENT, () -> net.fees(1, 0, 1000001, 1));
-        Check.refuses("delta 0", net, Check.ARGUMENT, () -> net.fees(1, 0, 0, 0));
-        Check.refuses("delta 101", net, Check.ARGUMENT, () -> net.fees(1, 0, 0, 101));
-        Check.same("the fee stays", net.route(0, 2, 1), 8);
-        net.pay(0, 2, 1, 0, 1);
-        net.step(0);
-        Check.same("the delta stays", net.made(0, 0, 2), 4);
-    }
-
     private static void locks() {
         ChannelNet net = new ChannelNet();
         Check.same("lock(0)", net.lock(0), 0);
@@ -112,22 +90,6 @@ public final class NodesTest {
         Check.same("secret 0 has lock 0", net.tell(5, 0), 0);
         Check.yes("secret 0 is one, too", net.knows(5, 0));
         Check.no("only node 5 knows it", net.knows(4, 0));
-        Check.refuses("tell -1", net, Check.INDEX, () -> net.tell(-1, 1));
-        Check.refuses("tell 6", net, Check.INDEX, () -> net.tell(6, 1));
-        Check.refuses("knows -1", net, Check.INDEX, () -> net.knows(-1, 1));
-        Check.refuses("knows 6", net, Check.INDEX, () -> net.knows(6, 1));
-    }
-
-    private static void atMost24Secrets() {
-        ChannelNet net = new ChannelNet();
-        for (int secret = 1; secret <= 24; secret++) {
-            Check.same("tell", net.tell(secret % 6, secret), net.lock(secret));
-        }
-        Check.refuses("the 25th", net, Check.STATE, () -> net.tell(0, 25));
-        Check.refuses("node before state", net, Check.INDEX, () -> net.tell(6, 25));
-        Check.same("a known one, to another node", net.tell(5, 24), net.lock(24));
-        Check.yes("it knows it", net.knows(5, net.lock(24)));
-        Check.yes("the first one is still known", net.knows(1, net.lock(1)));
     }
 
     private static void watchOnAndOff() {
@@ -145,8 +107,6 @@ public final class NodesTest {
         Check.same("watched from now on", net.grow(1), 1);
         net.publish(1, 1, 0);
         Check.same("the publisher watches in vain", net.grow(9), 0);
-        Check.refuses("watch -1", net, Check.INDEX, () -> net.watch(-1, true));
-        Check.refuses("watch 6", net, Check.INDEX, () -> net.watch(6, false));
     }
 
     private static void heightAndCoins() {
@@ -158,7 +118,5 @@ public final class NodesTest {
         net.open(0, 5, 1000000, 1);
         Check.same("coins(0)", net.coins(0), 0);
         Check.same("coins(5)", net.coins(5), 999999);
-        Check.refuses("coins -1", net, Check.INDEX, () -> net.coins(-1));
-        Check.refuses("coins 6", net, Check.INDEX, () -> net.coins(6));
     }
 }
