@@ -106,7 +106,7 @@ public final class LedgerBoundsTest {
         ChannelNet net = oldPublished();
         Check.refuses("PUBLISHED, the other node", net, Check.STATE, () -> net.publish(0, 2, 1));
         Check.refuses("PUBLISHED, the same again", net, Check.STATE, () -> net.publish(0, 4, 0));
-        net.punish(0);
+        Check.same("the publisher stays, so the other node punishes", net.punish(0), 1001000);
         Check.refuses("CLOSED", net, Check.STATE, () -> net.publish(0, 2, 1));
         net.open(4, 2, 1, 1);
         net.close(1);

@@ -222,6 +222,19 @@ public final class TermsOfPaymentsBoundsTest {
         route("the first channel's", net, new int[] {0, 3}, 9, "9 by 2 0");
         net.publish(0, 2, 0);
         route("what is left", net, new int[] {0, 3}, 9, "9 by 5 4");
+        leastNumbersInLongRoutes();
+    }
+
+    private static void leastNumbersInLongRoutes() {
+        ChannelNet net = Nets.chain(6, 100);
+        net.open(2, 3, 100, 100);
+        net.open(1, 0, 100, 100);
+        route("of four ways over all nodes", net, new int[] {0, 5}, 9, "9 by 0 1 2 3 4");
+        net.publish(0, 0, 0);
+        route("the first channel is another one", net, new int[] {0, 5}, 9, "9 by 6 1 2 3 4");
+        net.publish(2, 2, 0);
+        route("the third channel is another one", net, new int[] {0, 5}, 9, "9 by 6 1 5 3 4");
+        route("a short one behind a long one", net, new int[] {2, 3}, 9, "9 by 5");
     }
 
     private static void forwardIfOpen() {
@@ -351,6 +364,11 @@ public final class TermsOfPaymentsBoundsTest {
         Nets.steps("at the first one's deadline", net, 1, DONE);
         Nets.payment("left", net, 1, DONE, KEPT, 2, 0);
         Check.same("it is still there", net.made(0, 1, 3), 1);
+        ChannelNet late = Nets.payments();
+        Nets.steps("forward", late, 0, FORWARD, FORWARD, KEPT);
+        late.grow(1000);
+        Nets.steps("far behind both deadlines", late, 0, KEPT, DONE);
+        Nets.payment("left", late, 0, DONE, KEPT, 2, 0);
     }
 
     private static void backDroppedAnyTime() {
