@@ -414,7 +414,7 @@ public final class ChannelNet {
 
     private void stepForward(Payment payment) {
         int i = payment.made;
-        Channel next = channels.get(payment.channels[i]);
+        Channel next = channelAt(payment.channels[i]);
         int payer = payment.payers[i];
         int amount = payment.amounts[i];
         if (!next.canCarry(payer, amount) || payment.deadlines[i] <= height) {
@@ -428,8 +428,8 @@ public final class ChannelNet {
 
     private void stepBack(Payment payment) {
         int i = payment.left - 1;
-        Channel channel = channels.get(payment.channels[i]);
-        Promise promise = channel.promises.get(payment.promises[i]);
+        Channel channel = channelAt(payment.channels[i]);
+        Promise promise = promiseOf(channel, payment.promises[i]);
         if (canEnd(channel, promise, payment.outcome)) {
             checkState(channel.hasRoomForState());
             endAs(channel, promise, payment.outcome);
